@@ -241,6 +241,12 @@ public final class PromiseTest {
         due("part the middle", x.part(1), 2);
         due("0 is 1 then", x.about(0, 3), 1);
         due("one joined", x.count(1), 1);
+        noteOf(x, 0, 2);
+        dueAll("cited as meant", list(x), 1, 2);
+        x.part(0);
+        dueAll("cited as parted", list(x), 0, 2);
+        x.join(0, 3);
+        dueAll("cited as joined", list(x), 3, 2);
     }
 
     private static void about() {
@@ -345,6 +351,16 @@ public final class PromiseTest {
         due("outside ahead of full", x.note(41), OUTSIDE);
         due("after a cut", x.cut(39), 0);
         due("there is room", x.note(39), 39);
+        CitedWorks y = withWorks(1, 2);
+        noteOf(y, 0);
+        noteOf(y, 0);
+        dueAll("one behind the other", formsOf(y, 0, 1), 0, 2);
+        y.note(1);
+        dueAll("one is put between", formsOf(y, 0, 1), 0, 1);
+        y.cut(1);
+        dueAll("and cut", formsOf(y, 0, 1), 0, 2);
+        y.cut(0);
+        dueAll("the first one, too", formsOf(y, 0, 1), UNKNOWN, 0);
     }
 
     private static void calls() {
@@ -456,8 +472,11 @@ public final class PromiseTest {
         due("last", x.piece(0, 0, 1), 5);
         read(x, "run 6;");
         due("none is so long", x.piece(0, NONE, 0), 5);
+        noteOf(x, 1, 1, 2, 2);
+        due("each once", x.piece(4, NONE, 0), 2);
         x.join(2, 1);
         due("joined", x.piece(0, NONE, 0), 4);
+        due("all one", x.piece(4, NONE, 0), 1);
         due("last of them", x.piece(0, 3, 1), 4);
     }
 
@@ -544,6 +563,8 @@ public final class PromiseTest {
         fault("form\u00e9", 1, 4);
         fault("form\tnote;", 1, 4);
         fault("formnote;", 1, 0);
+        fault("formz note;", 1, 0);
+        fault("zorm note;", 1, 0);
         fault("form", 1, 4);
         fault("form   ", 1, 7);
         fault("form note", 1, 9);
@@ -591,6 +612,10 @@ public final class PromiseTest {
         fault("form note; forms", 1, 11);
         fault("names 1 show 1;run 2;names 9 show 1;", 3, 21);
         fault("more yes;run 1;more yes;", 2, 13);
+        CitedWorks x = new CitedWorks();
+        read(x, "more yes;run 2;");
+        due("bytes of an earlier text do not count", read(x, "more yes"), -11);
+        due("fault at the end", x.fault(), 8);
     }
 
     private static void styles() {
@@ -699,7 +724,9 @@ public final class PromiseTest {
         due("told since", x.call(0, 2, 1), 2);
         read(x, "form number;");
         feedAll(x, "more");
+        due("cited ahead of it", x.count(4), 1);
         due("back", x.back(3), 2);
+        due("cited behind it", x.count(4), 2);
         due("works stay", x.count(0), 3);
         due("joined no more", x.count(1), 0);
         due("authors stay", x.about(0, 0), 2);
@@ -713,6 +740,7 @@ public final class PromiseTest {
         dueAll("note 1", note(x, 1));
         due("keep over it", x.cut(0), 2);
         due("keep over it", x.keep(3), 0);
+        due("nothing stands", x.count(3), 0);
         due("back", x.back(3), 1);
     }
 
@@ -763,6 +791,29 @@ public final class PromiseTest {
         due("same and short", x.beside(0, 1), 1);
         due("call 2", x.beside(0, 2), 2);
         due("now is as it was", x.told(2, 6), 1);
+        CitedWorks y = new CitedWorks();
+        y.work(1, 1, 0, 1, 0);
+        y.work(1, 2, 0, 2, 0);
+        read(y, "initials yes;");
+        noteOf(y, 0);
+        y.keep(0);
+        noteOf(y, 1);
+        due("initials", y.beside(0, 1), 1);
+        y.move(1, 0);
+        y.cut(0);
+        y.work(1, 1, 0, 2, 0);
+        noteOf(y, 2);
+        y.move(1, 0);
+        due("another number by notes", y.about(0, 9), 2);
+        due("does not matter", y.beside(0, 1), 0);
+        y.author(2, 3, 0, 0);
+        read(y, "initials yes;names 1 show 1;");
+        due("nor does that of others", y.beside(0, 1), 0);
+        y.author(0, 3, 0, 0);
+        y.back(0);
+        y.keep(1);
+        read(y, "names 1 show 1;");
+        due("m", y.beside(1, 1), 1);
     }
 
     private static void together() {
