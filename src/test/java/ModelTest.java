@@ -17,6 +17,8 @@ public final class ModelTest {
     private final StringBuilder told = new StringBuilder();
     private final boolean wild;
     private final int families, years;
+    /** An object is used for at most 512 calls. */
+    private int calls;
 
     private ModelTest(long seed) {
         random = new Random(seed);
@@ -56,23 +58,16 @@ public final class ModelTest {
     }
 
     private String run() {
-        int length = 0;
-        while (length < 512) {
+        while (calls < 512) {
             int kind = below(100);
-            String fault;
-            if (kind < 5) {
-                fault = feedAndRead();
-                length += 6;
-            } else {
-                fault = step(kind);
-                length++;
-            }
+            String fault = kind < 5 && calls < 480 ? feedAndRead() : step(kind);
             if (fault != null) return fault + " after\n" + told;
         }
         return null;
     }
 
     private String due(String call, int got, int want) {
+        calls++;
         told.append(call).append(" = ").append(want).append('\n');
         return got == want ? null : call + " answered " + got + ", due is " + want;
     }

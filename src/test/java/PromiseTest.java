@@ -1,22 +1,6 @@
 /** For each promise ordinary inputs, the edges that the document names, wrong inputs, and the first refusal of several. */
-public final class PromiseTest {
-    private static final int NONE = CitedWorks.NONE, UNKNOWN = CitedWorks.UNKNOWN, OUTSIDE = CitedWorks.OUTSIDE, NOT = CitedWorks.NOT, FULL = CitedWorks.FULL;
-    private static final int[] FAR = {Integer.MIN_VALUE, -1002, -2, 1 << 16, Integer.MAX_VALUE};
-    private static int checks = 0, wrong = 0;
-    private static String promise = "";
-
-    private static void due(String what, int got, int want) {
-        checks++;
-        if (got != want) {
-            wrong++;
-            System.out.println(promise + ": " + what + " answered " + got + ", due is " + want);
-        }
-    }
-
-    private static void dueAll(String what, int[] got, int... want) {
-        due(what + " length", got.length, want.length);
-        for (int k = 0; k < Math.min(got.length, want.length); k++) due(what + " [" + k + "]", got[k], want[k]);
-    }
+public final class PromiseTest extends Checks {
+    private static final int[] FAR = {MIN, -1002, -2, 1 << 16, MAX};
 
     public static void main(String[] args) {
         newObject();
@@ -44,82 +28,13 @@ public final class PromiseTest {
         together();
         ranks();
         least();
-        System.out.println("promises: " + checks + " checks, " + wrong + " wrong");
-        if (wrong != 0) System.exit(1);
-    }
-
-    // ---- help
-
-    private static void feedAll(CitedWorks x, String text) {
-        for (int i = 0; i < text.length(); i += 8) {
-            int n = Math.min(8, text.length() - i);
-            long bytes = 0;
-            for (int k = 0; k < n; k++) bytes = bytes << 8 | text.charAt(i + k);
-            x.feed(n, bytes);
-        }
-    }
-
-    private static int read(CitedWorks x, String text) {
-        feedAll(x, text);
-        return x.read();
-    }
-
-    private static int[] style(CitedWorks x) {
-        int[] all = new int[10];
-        for (int what = 0; what < 10; what++) all[what] = x.style(what);
-        return all;
-    }
-
-    /** Works of one family each, of the years told. */
-    private static CitedWorks withWorks(int... years) {
-        CitedWorks x = new CitedWorks();
-        for (int k = 0; k < years.length; k++) x.work(k, 0, 0, years[k], 0);
-        return x;
-    }
-
-    /** A work with these families, without initials. */
-    private static int workOf(CitedWorks x, int year, int... families) {
-        int w = x.work(families[0], 0, 0, year, 0);
-        for (int k = 1; k < families.length; k++) x.author(w, families[k], 0, 0);
-        return w;
-    }
-
-    /** A note at the end with calls of these works, without pages. */
-    private static void noteOf(CitedWorks x, int... works) {
-        int i = x.note(x.count(2));
-        for (int w : works) x.call(i, w, NONE);
-    }
-
-    private static int[] aboutAll(CitedWorks x, int what) {
-        int[] all = new int[x.count(0)];
-        for (int w = 0; w < all.length; w++) all[w] = x.about(w, what);
-        return all;
-    }
-
-    private static int[] list(CitedWorks x) {
-        int[] all = new int[x.count(4)];
-        for (int i = 0; i < all.length; i++) all[i] = x.list(i);
-        return all;
-    }
-
-    private static int[] formsOf(CitedWorks x, int... calls) {
-        int[] all = new int[calls.length];
-        for (int k = 0; k < all.length; k++) all[k] = x.told(calls[k], 6);
-        return all;
-    }
-
-    private static int[] note(CitedWorks x, int i) {
-        int size = 0;
-        while (x.at(i, size) != NONE) size++;
-        int[] all = new int[size];
-        for (int k = 0; k < size; k++) all[k] = x.at(i, k);
-        return all;
+        end("promises");
     }
 
     // ---- promises
 
     private static void newObject() {
-        promise = "1 new object";
+        says("1 new object");
         CitedWorks x = new CitedWorks();
         for (int what = 0; what <= 8; what++) due("count(" + what + ")", x.count(what), 0);
         dueAll("style", style(x), 0, 0, 3, 1, 1, 0, 0, 1, 0, 0);
@@ -133,7 +48,7 @@ public final class PromiseTest {
     }
 
     private static void works() {
-        promise = "2 work";
+        says("2 work");
         CitedWorks x = new CitedWorks();
         due("lowest", x.work(0, 0, 0, 0, 0), 0);
         due("highest", x.work(49, 26, 26, 2100, 999), 1);
@@ -163,7 +78,7 @@ public final class PromiseTest {
     }
 
     private static void authors() {
-        promise = "3 author";
+        says("3 author");
         CitedWorks x = withWorks(1, 1);
         due("second", x.author(0, 49, 26, 26), 2);
         due("third", x.author(0, 0, 0, 0), 3);
@@ -185,7 +100,7 @@ public final class PromiseTest {
     }
 
     private static void pagesAndPage() {
-        promise = "4, 9 pages, page";
+        says("4, 9 pages, page");
         CitedWorks x = withWorks(1, 1);
         for (int what = 0; what < 3; what++) due("none at first", x.page(0, what), NONE);
         due("pages", x.pages(0, 0, 9999), 1);
@@ -220,7 +135,7 @@ public final class PromiseTest {
     }
 
     private static void joinAndPart() {
-        promise = "5, 6 join, part";
+        says("5, 6 join, part");
         CitedWorks x = withWorks(1, 1, 1, 1);
         due("unknown a", x.join(4, 0), UNKNOWN);
         due("unknown b", x.join(0, 4), UNKNOWN);
@@ -250,7 +165,7 @@ public final class PromiseTest {
     }
 
     private static void about() {
-        promise = "7 about";
+        says("7 about");
         CitedWorks x = new CitedWorks();
         x.work(3, 1, 2, 1999, 7);
         x.work(3, 4, 0, 1999, 8);
@@ -272,7 +187,7 @@ public final class PromiseTest {
     }
 
     private static void names() {
-        promise = "8 name";
+        says("8 name");
         CitedWorks x = new CitedWorks();
         x.work(3, 1, 2, 1999, 7);
         x.author(0, 5, 6, 0);
@@ -285,7 +200,7 @@ public final class PromiseTest {
     }
 
     private static void lists() {
-        promise = "10 list";
+        says("10 list");
         CitedWorks x = new CitedWorks();
         x.work(5, 1, 0, 1990, 3);     // 0
         x.work(5, 0, 0, 1995, 3);     // 1: less initial
@@ -316,7 +231,7 @@ public final class PromiseTest {
     }
 
     private static void notes() {
-        promise = "11, 12, 13 note, cut, move";
+        says("11, 12, 13 note, cut, move");
         CitedWorks x = withWorks(1, 2);
         due("note 1 of none", x.note(1), OUTSIDE);
         due("note -1", x.note(-1), OUTSIDE);
@@ -364,7 +279,7 @@ public final class PromiseTest {
     }
 
     private static void calls() {
-        promise = "14, 15, 16, 17 call, drop, told, at";
+        says("14, 15, 16, 17 call, drop, told, at");
         CitedWorks x = withWorks(1, 2);
         x.note(0);
         x.note(1);
@@ -412,7 +327,7 @@ public final class PromiseTest {
     }
 
     private static void forms() {
-        promise = "16 forms";
+        says("16 forms");
         CitedWorks x = withWorks(1, 2);
         for (int i = 0; i < 5; i++) x.note(i);
         x.call(0, 0, 5);       // 0
@@ -443,7 +358,7 @@ public final class PromiseTest {
     }
 
     private static void pieces() {
-        promise = "18 piece";
+        says("18 piece");
         CitedWorks x = withWorks(1, 1, 1, 1, 1, 1, 1, 1);
         noteOf(x, 0, 1, 2, 3, 4);
         noteOf(x, 5, 6, 7);
@@ -481,7 +396,7 @@ public final class PromiseTest {
     }
 
     private static void counts() {
-        promise = "19 count";
+        says("19 count");
         CitedWorks x = new CitedWorks();
         workOf(x, 1, 1, 2);
         workOf(x, 1, 1, 2);
@@ -504,7 +419,7 @@ public final class PromiseTest {
     }
 
     private static void feeding() {
-        promise = "20 feed";
+        says("20 feed");
         CitedWorks x = new CitedWorks();
         due("n 0", x.feed(0, 0), OUTSIDE);
         due("n 9", x.feed(9, 0), OUTSIDE);
@@ -525,7 +440,7 @@ public final class PromiseTest {
     }
 
     private static void reading() {
-        promise = "21 read";
+        says("21 read");
         CitedWorks x = new CitedWorks();
         String all = "form number;order year;names 4 show 3;again 9;more yes;initials yes;letters no;run 9;pages short;";
         due("all clauses", read(x, all), 9);
@@ -552,7 +467,7 @@ public final class PromiseTest {
     }
 
     private static void faults() {
-        promise = "21, 22 read, fault";
+        says("21, 22 read, fault");
         fault(";", 1, 0);
         fault("  ;", 1, 2);
         fault("7", 1, 0);
@@ -619,7 +534,7 @@ public final class PromiseTest {
     }
 
     private static void styles() {
-        promise = "23 style";
+        says("23 style");
         CitedWorks x = new CitedWorks();
         due("10", x.style(10), OUTSIDE);
         due("-1", x.style(-1), OUTSIDE);
@@ -628,7 +543,7 @@ public final class PromiseTest {
     }
 
     private static void shown() {
-        promise = "7 m";
+        says("7 m");
         CitedWorks x = new CitedWorks();
         workOf(x, 1, 1, 2, 3, 4);     // 0
         workOf(x, 1, 1, 2, 3, 5);     // 1
@@ -658,7 +573,7 @@ public final class PromiseTest {
     }
 
     private static void initials() {
-        promise = "7 initials";
+        says("7 initials");
         CitedWorks x = new CitedWorks();
         x.work(1, 1, 0, 1, 0);
         x.work(1, 1, 2, 2, 0);
@@ -680,7 +595,7 @@ public final class PromiseTest {
     }
 
     private static void letters() {
-        promise = "7 letters";
+        says("7 letters");
         CitedWorks x = new CitedWorks();
         workOf(x, 1, 1);            // 0
         workOf(x, 1, 2);            // 1
@@ -703,7 +618,7 @@ public final class PromiseTest {
     }
 
     private static void versions() {
-        promise = "24, 25 keep, back";
+        says("24, 25 keep, back");
         CitedWorks x = withWorks(1, 2);
         noteOf(x, 0, 1);
         x.note(1);
@@ -745,7 +660,7 @@ public final class PromiseTest {
     }
 
     private static void besideVersions() {
-        promise = "26 beside";
+        says("26 beside");
         CitedWorks x = withWorks(1, 1, 1);
         noteOf(x, 0, 1, 2);
         due("not kept", x.beside(0, 9), UNKNOWN);
@@ -817,7 +732,7 @@ public final class PromiseTest {
     }
 
     private static void together() {
-        promise = "27 together";
+        says("27 together");
         CitedWorks x = withWorks(1, 1, 1, 1);
         noteOf(x, 0, 1, 0);
         noteOf(x, 1, 2, 0);
@@ -837,7 +752,7 @@ public final class PromiseTest {
     }
 
     private static void ranks() {
-        promise = "28 rank";
+        says("28 rank");
         CitedWorks x = withWorks(1, 1, 1, 1);
         due("none", x.rank(), 0);
         noteOf(x, 0, 0, 0, 0, 0);
@@ -852,14 +767,8 @@ public final class PromiseTest {
         due("joined", x.rank(), 2);
     }
 
-    private static int[] leasts(CitedWorks x) {
-        int[] all = new int[6];
-        for (int what = 0; what < 6; what++) all[what] = x.least(what);
-        return all;
-    }
-
     private static void least() {
-        promise = "29 least";
+        says("29 least");
         CitedWorks x = new CitedWorks();
         due("6", x.least(6), OUTSIDE);
         due("-1", x.least(-1), OUTSIDE);
