@@ -112,6 +112,8 @@ public final class EdgeShownTest extends Checks {
         String style = "names 1 show 1;more yes;";
         m("two of three, and one of two", cited(style, of(1, 2, 3), of(1, 2), of(1, 2, 4)), 3, 2, 3);
         m("two of four, and one of three", cited(style, of(1, 2, 3, 4), of(1, 2, 3), of(1, 2, 3, 5)), 4, 3, 4);
+        m("family 0 is one, too", cited(style, of(1, 2, 0), of(1, 2), of(1, 2, 4)), 3, 2, 3);
+        m("family 0 as the fourth", cited(style, of(1, 2, 3, 0), of(1, 2, 3), of(1, 2, 3, 5)), 4, 3, 4);
         m("by three, one has two", cited("names 3 show 3;more yes;", of(1, 2, 3), of(1, 2)), 3, 2);
         m("by four, the others one to three", cited("names 4 show 1;more yes;", of(1, 2, 3, 4), of(1), of(1, 2), of(1, 2, 3)), 4, 1, 2, 3);
     }
@@ -267,6 +269,8 @@ public final class EdgeShownTest extends Checks {
         letters("the same", cited("", of(1), of(1)), 1, 2);
         letters("another family", cited("", of(1), of(2)), 0, 0);
         letters("another m", cited("", of(1, 2), of(1, 2, 3)), 0, 0);
+        letters("another m, both have others beyond the lesser", cited("names 2 show 1;", of(1, 2), of(1, 2, 3)), 0, 0);
+        letters("another m by more", cited("names 1 show 1;more yes;", of(1, 2, 3), of(1, 2, 4), of(1, 2, 3)), 1, 0, 2);
         letters("in another order", cited("", of(1, 2), of(2, 1)), 0, 0);
         letters("another one beyond m", cited("names 1 show 1;", of(1, 2), of(1, 3)), 1, 2);
         letters("two and three beyond m", cited("names 1 show 1;", of(1, 2, 3), of(1, 3, 4, 5)), 1, 2);
@@ -422,6 +426,8 @@ public final class EdgeShownTest extends Checks {
         ahead("year", of(2099, 999, 5, 3, 0), of(2100, 0, 5, 3, 0));
         ahead("title", of(1990, 0, 5, 3, 0), of(1990, 1, 5, 3, 0));
         ahead("title", of(1990, 998, 5, 3, 0), of(1990, 999, 5, 3, 0));
+        ahead("year behind four authors", of(1990, 9, 5, 3, 0, 6, 0, 0, 7, 0, 0, 8, 5, 5), of(1991, 0, 5, 3, 0, 6, 0, 0, 7, 0, 0, 8, 5, 5));
+        ahead("title behind four authors", of(1990, 8, 5, 3, 0, 6, 0, 0, 7, 0, 0, 8, 5, 5), of(1990, 9, 5, 3, 0, 6, 0, 0, 7, 0, 0, 8, 5, 5));
         CitedWorks x = new CitedWorks();
         for (int w = 0; w < 24; w++) x.work(5, 3, 0, 1990, 7);
         for (int w = 23; w >= 0; w--) {
@@ -434,6 +440,9 @@ public final class EdgeShownTest extends Checks {
         dueAll("number by year", list(x), row(24, i -> i));
         read(x, "order cited;");
         dueAll("as cited", list(x), row(24, i -> 23 - i));
+        for (int w = 0; w < 72; w++) x.author(w % 24, w / 24, 1, 0);
+        read(x, "order name;");
+        dueAll("number behind four authors", list(x), row(24, i -> i));
     }
 
     private static void listBounds() {

@@ -27,6 +27,7 @@ public final class EdgeVersionsTest extends Checks {
         besideByInitials();
         besideByLetter();
         besideByNumber();
+        besideByTheWorkMeant();
         besideByNothingElse();
         besideLeast();
         togetherBounds();
@@ -401,6 +402,18 @@ public final class EdgeVersionsTest extends Checks {
 
     private static void besideByForm() {
         says("A CALL READS by: its FORM");
+        CitedWorks turned = withWorks(1, 2);
+        for (int i = 0; i < 3; i++) turned.note(i);
+        turned.call(2, 0, NONE);
+        turned.call(0, 0, NONE);
+        turned.call(1, 1, NONE);
+        dueAll("forms", formsOf(turned, 0, 1, 2), 1, 0, 0);
+        turned.keep(0);
+        beside("calls in another order than their numbers", turned, 0, 0, NONE);
+        turned.move(2, 1);
+        beside("1 is 2 then", turned, 0, 1, 0);
+        turned.move(1, 0);
+        beside("and 0", turned, 0, 2, 0);
         CitedWorks x = withWorks(1, 2);
         noteOf(x, 0);
         noteOf(x, 0);
@@ -473,6 +486,7 @@ public final class EdgeVersionsTest extends Checks {
             read(x, "form " + form + ";");
             noteOf(x, 0, 1);
             x.keep(0);
+            beside("the same number by " + form, x, 0, 0, NONE);
             x.note(0);
             x.call(0, 2, NONE);
             boolean number = form.equals("number");
@@ -482,6 +496,49 @@ public final class EdgeVersionsTest extends Checks {
             x.drop(0);
             beside("one has number 1 then by " + form, x, 1, number ? 1 : 0, 0);
         }
+    }
+
+    /** Call 0 means work 1 then and work 2 now, both of which are cited with the same look then and now. */
+    private static CitedWorks joinedAnew(String style, Told works) {
+        CitedWorks x = new CitedWorks();
+        x.work(49, 0, 0, 2100, 0);
+        works.to(x);
+        read(x, style);
+        x.join(0, 1);
+        noteOf(x, 0);
+        for (int w = 1; w < x.count(0); w++) noteOf(x, w);
+        x.keep(0);
+        x.part(0);
+        x.join(0, 2);
+        return x;
+    }
+
+    private static void besideByTheWorkMeant() {
+        says("A CALL READS by: of its WORK MEANT: m, whether INITIALS are SHOWN, LETTER, NUMBER");
+        Told apart = x -> {
+            workOf(x, 1990, 1);
+            workOf(x, 1990, 2);
+        };
+        beside("nothing but the work", joinedAnew("form name;order name;", apart), 0, 0, NONE);
+        beside("NUMBER", joinedAnew("form number;order name;", apart), 0, 1, 0);
+        beside("m", joinedAnew("form name;order name;", x -> {
+            workOf(x, 1990, 1);
+            workOf(x, 1990, 2, 3);
+        }), 0, 1, 0);
+        beside("INITIALS", joinedAnew("form name;order name;initials yes;", x -> {
+            x.work(1, 1, 0, 1990, 0);
+            x.work(2, 1, 0, 1990, 0);
+            x.work(1, 2, 0, 1990, 0);
+        }), 0, 1, 0);
+        beside("LETTER", joinedAnew("form name;order name;", x -> {
+            workOf(x, 1990, 1);
+            workOf(x, 1990, 2);
+            workOf(x, 1990, 1);
+        }), 0, 1, 0);
+        beside("another LETTER", joinedAnew("form name;order name;", x -> {
+            workOf(x, 1990, 1);
+            workOf(x, 1990, 1);
+        }), 0, 1, 0);
     }
 
     private static void besideByNothingElse() {
@@ -638,6 +695,8 @@ public final class EdgeVersionsTest extends Checks {
         for (int w = 0; w < 24; w++) y.work(w, 0, 0, 1990, 0);
         citeAll(y, 24);
         due("24 by one", y.rank(), 1);
+        citeAll(y, 2);
+        due("two of them by two", y.rank(), 2);
     }
 
     private static void rankAsMeant() {
