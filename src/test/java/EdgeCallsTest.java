@@ -44,6 +44,16 @@ public final class EdgeCallsTest extends Checks {
         forms("number", x, 5, 5, 5, 5, 5);
         read(x, "form note;");
         forms("note", x, 0, 2, 0, 1, 1);
+        for (int again = 0; again <= 9; again++) {
+            CitedWorks y = withWorks(1, 2);
+            noteOf(y, 0);
+            noteOf(y, 0);
+            noteOf(y, 1, 1);
+            read(y, "form name;again " + again + ";");
+            forms("name, again " + again, y, 4, 4, 4, 4);
+            read(y, "form number;again " + again + ";");
+            forms("number, again " + again, y, 5, 5, 5, 5);
+        }
     }
 
     private static void formFull() {

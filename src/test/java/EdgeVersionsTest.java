@@ -27,6 +27,7 @@ public final class EdgeVersionsTest extends Checks {
         besideByInitials();
         besideByLetter();
         besideByNumber();
+        besideByEachForm();
         besideByTheWorkMeant();
         besideByNothingElse();
         besideLeast();
@@ -495,6 +496,36 @@ public final class EdgeVersionsTest extends Checks {
             x.cut(0);
             x.drop(0);
             beside("one has number 1 then by " + form, x, 1, number ? 1 : 0, 0);
+        }
+    }
+
+    private static void besideByEachForm() {
+        says("(with form number alone): m, whether INITIALS are SHOWN, LETTER are read with every form");
+        for (String form : new String[] {"form note;", "form name;", "form number;"}) {
+            CitedWorks byM = new CitedWorks();
+            workOf(byM, 1990, 1, 2);
+            workOf(byM, 1990, 1, 3);
+            read(byM, form + "names 1 show 1;more yes;letters no;");
+            noteOf(byM, 0);
+            byM.keep(0);
+            noteOf(byM, 1);
+            beside("m alone, " + form, byM, 1, 1, 0);
+            CitedWorks byInitials = new CitedWorks();
+            byInitials.work(1, 1, 0, 1990, 0);
+            byInitials.work(1, 2, 0, 1991, 0);
+            read(byInitials, form + "initials yes;");
+            noteOf(byInitials, 0);
+            byInitials.keep(0);
+            noteOf(byInitials, 1);
+            beside("INITIALS alone, " + form, byInitials, 1, 1, 0);
+            CitedWorks byLetter = new CitedWorks();
+            workOf(byLetter, 1990, 1);
+            workOf(byLetter, 1990, 1);
+            read(byLetter, form);
+            noteOf(byLetter, 0);
+            byLetter.keep(0);
+            noteOf(byLetter, 1);
+            beside("LETTER alone, " + form, byLetter, 1, 1, 0);
         }
     }
 
