@@ -589,6 +589,12 @@ public final class EdgeVersionsTest extends Checks {
         beside("pages, run, again", x, 0, 0, NONE);
         read(x, "order year;");
         beside("order", x, 0, 0, NONE);
+        CitedWorks all = withWorks(row(20, w -> w));
+        read(all, "form name;");
+        for (int i = 0; i < 40; i++) noteOf(all, i % 20);
+        all.keep(0);
+        for (int i = 1; i < 40; i++) all.move(i, 0);
+        beside("all 40 NOTES the other way round", all, 0, 0, NONE);
     }
 
     private static void besideLeast() {
